@@ -79,6 +79,8 @@ public final class KindsTest {
             kinds("12: even and large", x, 0, 1, 1, 1, Due.LARGE, 0);
             x.sure(0, s[0], s[1], 1);
             kinds("12: sure and large", x, 0, 1, 1, 1, 1, 1);
+            x.sure(1, s[0], s[1], 0);
+            kinds("12: sure number 0 and large", x, 1, 1, 1, 1, 1, 1);
             x.cell(0, 0, 0, 0);
             x.cell(0, 0, 1, 0);
             kinds("12: not proper and large", x, 0, 1, 0, 0, 0, 0);
@@ -243,6 +245,17 @@ public final class KindsTest {
         // S is 4 * 7 / 10 wholes: 1.2 / 2 and 0.8 / 2.8.
         x.blend(0, 1, 2, 1001 * 7 + 3);
         nearIs("17: seven tenths", x, 2, 3, 5, 2, 7);
+        x.shape(4, 2, 2, 1000000);
+        // E is 600000 in three rows, -600000 in the fourth: S is 2400000.
+        for (int row : new int[] {0, 1, 3, 4}) {
+            int agree = row == 4 ? 100000 : 400000;
+            x.cell(4, row, 0, agree);
+            x.cell(4, row, 4, agree);
+            x.cell(4, row, 1, 500000 - agree);
+            x.cell(4, row, 3, 500000 - agree);
+        }
+        nearIs("17: a great whole", x, 4, 4, 5, 1, 6);
+        Due.is("16: a great whole", x.broken(4), 6);
         for (int t : NO_TABLES) Due.is("17: table", x.near(t, 0, 0), Due.BAD);
         for (int bad : new int[] {-1, 2}) {
             Due.is("17: what", x.near(0, bad, 0), Due.BAD);

@@ -159,7 +159,10 @@ public final class LawsTest {
         boundIs("22: of three, the last", x, 10, 18 * 27 + 18, 81, 0);
         x.weigh(0, 8, 10);
         boundIs("22: of three, two", x, 20, 20 * 27 + 20, 9, 0);
+        x = new FarPairs();
         x.begin(1, 3);
+        for (int i = 0; i < 9; i++) x.weigh(0, i, new int[] {-5, 0, 3}[i / 3]);
+        boundIs("22: the least is the first", x, 3, 6, 3, -5);
         for (int i = 0; i < 9; i++) x.weigh(0, i, i == 5 ? 4 : -i);
         boundIs("22: one question", x, 4, 5, 1, -8);
     }
@@ -182,6 +185,11 @@ public final class LawsTest {
         Due.is("23: just at the bound", x.breaks(1), 0);
         x.blend(0, 1, 2, 1001 + 999);
         Due.is("23: just above it", x.breaks(2), 1);
+        x.shape(4, 2, 2, 1000000);
+        for (int row : new int[] {0, 1, 3, 4}) x.cell(4, row, 0, 1000000);
+        Due.is("23: just at the bound, of a great whole", x.breaks(4), 0);
+        x.cell(4, 4, 1, 1);
+        Due.is("23: above it by a millionth", x.breaks(4), 1);
         for (int t : NO_TABLES) Due.is("23: table", x.breaks(t), Due.BAD);
         Due.is("23: missing", x.breaks(7), Due.NO);
         x.sure(3, 2, 3, 0);
@@ -205,7 +213,7 @@ public final class LawsTest {
         weighAll(x, -1);
         Due.is("24: below 0", x.best(0), -8);
         x.begin(2, 2);
-        // Corner 16 has three halves of 2 and 1, SURE ones have at most 2 + 1 of them.
+        // A SURE table has the 2 whole, the others have a half of 2 and of 1.
         x.weigh(0, 0, 2);
         x.weigh(0, 4, 1);
         Due.is("24: a sure one is best", x.best(0), 4);
@@ -229,6 +237,13 @@ public final class LawsTest {
         Due.is("24: told, weighed", x.best(2), 15 + 3);
         for (int q = 0; q < 3; q++) for (int a = 0; a < 3; a++) x.weigh(6 + q, 3 * a + 2, 5);
         Due.is("24: told, weighed otherwise", x.best(2), 15 + 15);
+        for (int alone = 0; alone < 3; alone++) {
+            // One question of the first one wants answer 1 of the other, the others answer 2.
+            x.begin(3, 3);
+            weighAll(x, -7);
+            for (int i = 0; i < 27; i++) x.weigh(i / 3, 3 * (i % 3) + (i / 9 == alone ? 1 : 2), -3);
+            Due.is("24: told, question " + alone + " apart", x.best(2), -27);
+        }
         x.begin(1, 3);
         x.weigh(0, 7, 9);
         Due.is("24: told, of one question", x.best(2), 9);
@@ -254,7 +269,13 @@ public final class LawsTest {
         Due.is("24: the better answers", x.best(3), 25);
         x.weigh(4, 1, 7);
         Due.is("24: two rows", x.best(3), 144);
-        // One of the two must keep still, and is asked nothing then: played twice that is won as often as once.
+        for (int i = 0; i < 4; i++) {
+            // One of the two must always give one answer.
+            x.begin(2, 2);
+            for (int j = 0; j < 8; j++) x.weigh(j / 4 * 3 + j / 2 % 2, i < 2 ? 3 * i + j % 2 : 3 * (j % 2) + i - 2, 2);
+            Due.is("24: one answer alone " + i, x.best(3), 64);
+        }
+        // Won, if the parity is 1 just with questions 0, 0.
         FarPairs y = new FarPairs();
         int[][] won = {{0, 1}, {0, 3}, {1, 0}, {1, 4}, {3, 0}, {3, 4}, {4, 0}, {4, 4}};
         for (int[] w : won) y.weigh(w[0], w[1], 1);
@@ -271,6 +292,9 @@ public final class LawsTest {
         x.weigh(4, 4, -1);
         Due.is("24: a weight below 0", x.best(3), Due.NO);
         Due.is("24: the others take it", x.best(0), 0);
+        x.weigh(4, 4, 0);
+        x.weigh(0, 0, 101);
+        Due.is("24: the first weight above 100", x.best(3), Due.NO);
         int[][] shapes = {{1, 2}, {1, 3}, {2, 3}, {3, 2}, {3, 3}};
         for (int[] s : shapes) {
             x.begin(s[0], s[1]);

@@ -20,6 +20,12 @@ public final class MadeOfTwoTest {
         for (int i = 0; i < cells.length; i++) x.cell(t, questions, i, cells[i]);
     }
 
+    /** Of a whole of a million: both answer 0, or both answer 1. */
+    private static void halves(FarPairs x, int t, int q) {
+        x.shape(t, q, 2, 1000000);
+        for (int questions : new int[] {0, 1, 3, 4}) row(x, t, questions, 500000, 0, 0, 0, 500000);
+    }
+
     private static void promise28() {
         FarPairs x = new FarPairs();
         x.shape(0, 1, 2, 4);
@@ -97,6 +103,10 @@ public final class MadeOfTwoTest {
         Due.is("28: 1 * 1 + 999 * 3, of a million, by 2", x.wire(4, 5, 3), 500000);
         row(x, 5, 1, 4, 996);
         Due.is("28: 1 * 1 + 999 * 4, of a million", x.wire(4, 5, 3), 1000000);
+        halves(x, 6, 1);
+        halves(x, 7, 2);
+        Due.is("28: a million millions, divided", x.wire(6, 7, 3), 2);
+        Due.is("28: a million millions, divided", x.chance(3, 0, 4), 1);
     }
 
     private static void promise29() {
@@ -150,6 +160,13 @@ public final class MadeOfTwoTest {
         Due.is("29: full", x.blend(4, 5, 6, 1002), Due.FULL);
         Due.holds("29: refused, so nothing changes", Seen.of(x).equals(before));
         Due.is("29: not full with one alone", x.blend(4, 5, 6, 1), 1013);
+        halves(x, 4, 1);
+        x.shape(5, 1, 2, 1000000);
+        row(x, 5, 0, 1, 999999);
+        Due.is("29: great numbers, divided", x.blend(4, 4, 6, 1002000), 2);
+        Due.is("29: great numbers, divided", x.blend(4, 5, 6, 1002000), Due.FULL);
+        Due.is("29: great numbers, divided", x.blend(5, 5, 6, 1002000), 1000000);
+        Due.is("29: great numbers, divided", x.chance(6, 0, 1), 999999);
     }
 
     private static void promise30() {
@@ -172,6 +189,9 @@ public final class MadeOfTwoTest {
             int p = i / 8, q = i / 4 % 2, a = i / 2 % 2, b = i % 2;
             Due.is("30: cell", x.chance(5, 3 * p + q, 3 * a + b), (a + b + p + q + 1) % 2 == 0 ? 1 : 0);
         }
+        halves(x, 0, 1);
+        Due.is("30: great numbers, divided", x.parity(0, 0, 1), 2);
+        Due.is("30: great numbers, divided", x.chance(1, 0, 4), 1);
         x.sure(6, 3, 2, 5 * 8 + 3);
         x.sure(7, 3, 2, 6 * 8 + 1);
         Due.is("30: sure", x.parity(6, 7, 6), 1);

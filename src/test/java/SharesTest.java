@@ -45,6 +45,7 @@ public final class SharesTest {
         Due.is("25: 0 is no share", x.share(1, 0), 0);
         Due.holds("25: refused, so nothing changes", Seen.of(x).equals(before));
         Due.is("25: one of the thirty", x.share(14, 50), 3);
+        Due.is("25: the first of the thirty", x.share(0, 5), 1);
         Due.is("25: still thirty", x.count(1), 30);
         Due.is("25: none of one", x.share(14, 0), 50);
         Due.is("25: room for one", x.share(1, 1), 0);

@@ -266,6 +266,10 @@ public final class TablesTest {
         x.cell(4, 0, 0, 999999);
         x.cell(5, 0, 0, 999998);
         Due.is("11: near, not alike", x.same(4, 5), 0);
+        x.shape(5, 1, 2, 999998);
+        x.cell(4, 0, 0, 500000);
+        x.cell(5, 0, 0, 499999);
+        Due.is("11: great halves", x.same(4, 5), 1);
         for (int t : NO_TABLES) {
             Due.is("11: first table", x.same(t, 7), Due.BAD);
             Due.is("11: second table", x.same(7, t), Due.BAD);
