@@ -247,6 +247,9 @@ public final class LawsTest {
         x.begin(1, 3);
         x.weigh(0, 7, 9);
         Due.is("24: told, of one question", x.best(2), 9);
+        x.begin(1, 2);
+        weighAll(x, -4);
+        Due.is("24: told, of one question, below 0", x.best(2), -4);
         // The other one can tell nothing: the first one can't name y.
         x.begin(2, 2);
         for (int p = 0; p < 2; p++)
@@ -274,6 +277,15 @@ public final class LawsTest {
             x.begin(2, 2);
             for (int j = 0; j < 8; j++) x.weigh(j / 4 * 3 + j / 2 % 2, i < 2 ? 3 * i + j % 2 : 3 * (j % 2) + i - 2, 2);
             Due.is("24: one answer alone " + i, x.best(3), 64);
+        }
+        for (int person = 0; person < 2; person++) {
+            // One of the two must name the own question.
+            x.begin(2, 2);
+            for (int i = 0; i < 8; i++) {
+                int own = i / 4, other = i / 2 % 2, free = i % 2;
+                x.weigh(person == 0 ? 3 * own + other : 3 * other + own, person == 0 ? 3 * own + free : 3 * free + own, 2);
+            }
+            Due.is("24: the own question, by person " + person, x.best(3), 64);
         }
         // Won, if the parity is 1 just with questions 0, 0.
         FarPairs y = new FarPairs();
