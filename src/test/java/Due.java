@@ -8,6 +8,7 @@ final class Due {
 
     private static int wrong = 0;
     private static int asked = 0;
+    private static String test = "";
 
     private Due() {
     }
@@ -16,12 +17,21 @@ final class Due {
         asked++;
         if (got != want) {
             wrong++;
-            System.out.println(what + ": answered " + named(got) + ", due is " + named(want));
+            System.out.println(test + what + ": answered " + named(got) + ", due is " + named(want));
         }
     }
 
     static void holds(String what, boolean held) {
         is(what, held ? 1 : 0, 1);
+    }
+
+    /** The test whose answers come next is named with each that is wrong. */
+    static void within(String name) {
+        test = name.isEmpty() ? "" : name + ": ";
+    }
+
+    static int asked() {
+        return asked;
     }
 
     static int wrong() {
