@@ -139,6 +139,15 @@ public final class KindsEdgesTest {
         }
     }
 
+    static void promise12SureNumberZeroAndTheLast() {
+        for (int[] s : new int[][] {{1, 2, 3}, {1, 3, 8}, {2, 2, 15}, {2, 3, 80}, {3, 2, 63}, {3, 3, 728}})
+            for (int n : new int[] {0, s[2]}) {
+                FarPairs x = new FarPairs();
+                x.sure(0, s[0], s[1], n);
+                kinds("number " + n, x, 1, 1, 1, 1, 1);
+            }
+    }
+
     static void promise12NotLargeIfItIsNotSilent() {
         for (int[] s : new int[][] {{2, 3}, {3, 2}, {3, 3}}) {
             FarPairs x = even(s[0], s[1]);
@@ -286,6 +295,22 @@ public final class KindsEdgesTest {
             x.cell(0, row, 0, 0);
             x.cell(0, row, 4, 1);
             Due.is("row " + row, x.number(0), Due.NONE);
+        }
+    }
+
+    /** All tables that answer each row of questions surely: 16 of the 256 are SURE. */
+    static void promise14EachTableOfSureRows() {
+        for (int i = 0; i < 256; i++) {
+            int[] answers = {i >> 6 & 3, i >> 4 & 3, i >> 2 & 3, i & 3};
+            FarPairs x = new FarPairs();
+            x.shape(0, 2, 2, 3);
+            for (int row = 0; row < 4; row++) x.cell(0, ROWS_OF_TWO[row], ROWS_OF_TWO[answers[row]], 3);
+            boolean first = answers[0] / 2 == answers[1] / 2 && answers[2] / 2 == answers[3] / 2;
+            boolean other = answers[0] % 2 == answers[2] % 2 && answers[1] % 2 == answers[3] % 2;
+            int f = answers[0] / 2 + 2 * (answers[2] / 2), g = answers[0] % 2 + 2 * (answers[1] % 2);
+            Due.is("number of " + i, x.number(0), first && other ? 4 * f + g : Due.NONE);
+            Due.is("kind 2 of " + i, x.isOf(0, 2), first && other ? 1 : 0);
+            Due.is("kind 4 of " + i, x.isOf(0, 4), first && other ? 1 : 0);
         }
     }
 

@@ -147,6 +147,20 @@ public final class LawsEdgesTest {
         Due.is("law 7, row 0, alike", x.weigh(0, 0, 0), -1);
     }
 
+    static void promise20EachLawIsWorthWhatTheCornerLawIs() {
+        for (int k = 0; k < 8; k++) {
+            FarPairs x = new FarPairs();
+            x.take(k);
+            for (int corner = 0; corner < 24; corner++) {
+                x.corner(0, corner);
+                Due.is("law " + k + " at " + corner, x.value(0, 0), x.law(0, k) / x.about(0, 2));
+            }
+            Due.is("weights", x.count(4), 16);
+            for (int row : ROWS_OF_TWO)
+                for (int answers : ROWS_OF_TWO) Due.is("1 or -1", Math.abs(x.weigh(row, answers, 0)), 1);
+        }
+    }
+
     static void promise20OfAnotherShapeStood() {
         FarPairs x = levelOne(3, 3, 9);
         Due.is("take", x.take(3), 0);
@@ -276,6 +290,17 @@ public final class LawsEdgesTest {
             }
     }
 
+    static void promise22OneSureTableHasTheLeast() {
+        for (int[] s : SHAPES)
+            for (int n : new int[] {0, s[2] - 1}) {
+                FarPairs x = levelOne(s[0], s[1], 1000);
+                int answers = n == 0 ? 0 : 4 * (s[1] - 1);
+                for (int row = 0; row < 9; row++) x.weigh(row, answers, -1000);
+                Due.is("least, at number " + n, x.bound(3), -1000 * s[0] * s[0]);
+                Due.is("bound", x.bound(0), 1000 * s[0] * s[0]);
+            }
+    }
+
     static void promise22TheLeastOfSeveral() {
         FarPairs x = new FarPairs();
         x.begin(3, 3);
@@ -391,6 +416,23 @@ public final class LawsEdgesTest {
         Due.is("all", levelOne(2, 2, 100).best(3), 16 * 10000);
     }
 
+    /** Games with few ways to be best, so that a way to answer that is left out shows. Bit x y a b of each is a point. */
+    static void promise24TwiceAnswersHangOnBothQuestions() {
+        int[][] games = {{257, 4}, {1025, 4}, {260, 4}, {1028, 4}, {278, 6}, {1046, 6}, {329, 6}, {1097, 6}, {17922, 6},
+            {17928, 6}, {5633, 6}, {5636, 6}};
+        for (int[] game : games) {
+            FarPairs x = new FarPairs();
+            Oracle oracle = new Oracle();
+            for (int i = 0; i < 16; i++) {
+                int row = 3 * (i / 8) + i / 4 % 2, answers = 3 * (i / 2 % 2) + i % 2;
+                x.weigh(row, answers, game[0] >> i & 1);
+                oracle.weigh(row, answers, game[0] >> i & 1);
+            }
+            Due.is("game " + game[0], x.best(3), game[1]);
+            Due.is("game " + game[0] + ", tried out", oracle.best(3), game[1]);
+        }
+    }
+
     static void promise24OtherWeightsAreTakenBySilentAndTold() {
         for (int v : new int[] {-1000, 1000}) {
             FarPairs x = levelOne(2, 2, v);
@@ -400,9 +442,8 @@ public final class LawsEdgesTest {
         }
     }
 
-    static void promise24TheFirstAndTheLastCorner() {
-        int[] corners = {0, 15, 16, 23};
-        for (int k : corners) {
+    static void promise24EachCornerFromTheFirstToTheLast() {
+        for (int k = 0; k < 24; k++) {
             FarPairs x = levelOne(2, 2, -1000);
             x.corner(0, k);
             for (int i = 0; i < 81; i++) if (x.chance(0, i / 9, i % 9) > 0) x.weigh(i / 9, i % 9, 1000);
@@ -430,6 +471,17 @@ public final class LawsEdgesTest {
             Due.is("the last weight", x.best(2), 1000);
             Due.is("by lots", x.bound(0), 1000);
         }
+    }
+
+    static void promise24ToldWhichQuestionIsApart() {
+        for (int q = 2; q <= 3; q++)
+            for (int apart = 0; apart < q; apart++) {
+                FarPairs x = levelOne(q, 3, -1000);
+                for (int row = 0; row < 9; row++)
+                    for (int a = 0; a < 3; a++) x.weigh(row, 3 * a + (row / 3 == apart ? 1 : 2), 1000);
+                Due.is("of " + q + ", question " + apart, x.best(2), 1000 * q * q);
+                Due.is("without a bit", x.bound(0), 1000 * q * (q - 2));
+            }
     }
 
     static void promise24ToldOneBitOfThreeQuestions() {

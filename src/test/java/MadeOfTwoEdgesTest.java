@@ -246,6 +246,20 @@ public final class MadeOfTwoEdgesTest {
         Edges.refused("both, the most", once(1000000, 999999), x -> x.blend(0, 1, 2, THE_MOST), Due.FULL);
     }
 
+    static void promise29TheShapeIsThatOfBoth() {
+        for (int[] s : new int[][] {{1, 2}, {3, 3}}) {
+            FarPairs x = new FarPairs();
+            x.shape(0, s[0], s[1], 2);
+            for (int row = 0; row < 9; row++) x.cell(0, row, 0, 2);
+            // What was made last is of another shape.
+            x.corner(1, 16);
+            Due.is("blend", x.blend(0, 0, 1, 1), 1);
+            Due.is("questions", x.about(1, 0), s[0]);
+            Due.is("answers", x.about(1, 1), s[1]);
+            Due.is("cells", x.about(1, 3), s[0] * s[0]);
+        }
+    }
+
     static void promise29TheResultMayStandInTOrS() {
         for (int r = 0; r < 2; r++) {
             FarPairs x = new FarPairs();
@@ -318,6 +332,18 @@ public final class MadeOfTwoEdgesTest {
         for (int row = 0; row < 9; row++) Edges.row(x, 0, row, 500000, 0, 0, 0, 500000);
         Due.is("a million millions", x.parity(0, 0, 0), 2);
         for (int row = 0; row < 9; row++) Due.is("row " + row, x.chance(0, row, 4), 1);
+    }
+
+    static void promise30OfAllSureOnes() {
+        for (int n = 0; n < 16; n++)
+            for (int m = 0; m < 16; m++) {
+                FarPairs x = new FarPairs();
+                x.corner(0, n);
+                x.corner(1, m);
+                Due.is("parity", x.parity(0, 1, 2), 1);
+                // Each digit is an answer, and digits to the base 2 are bits.
+                Due.is("number", x.number(2), n ^ m);
+            }
     }
 
     static void promise30OfThreeQuestions() {

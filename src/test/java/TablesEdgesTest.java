@@ -514,6 +514,19 @@ public final class TablesEdgesTest {
             }
     }
 
+    static void promise10PeopleOfEachShape() {
+        for (int[] s : SHAPES) {
+            FarPairs x = new FarPairs();
+            numbered(x, s[0], s[1]);
+            x.turn(0, 0);
+            for (int i = 0; i < 81; i++) {
+                if (!inside(i / 9, s[0]) || !inside(i % 9, s[1])) continue;
+                int from = 27 * (i / 9 % 3) + 9 * (i / 27) + 3 * (i % 3) + i / 3 % 3;
+                Due.is("cell " + i, x.chance(0, i / 9, i % 9), from + 1);
+            }
+        }
+    }
+
     static void promise10TwiceIsAsItWas() {
         for (int[] s : SHAPES)
             for (int how = 0; how < 3; how++) {
