@@ -16,6 +16,7 @@ import java.util.regex.Pattern;
 /** The public face, and what of LANGUAGE.md can be read off the class and its text. */
 public final class FaceTest {
     private static final String SOURCE = "src/main/java/FarPairs.java";
+    private static final String DOCUMENT = "../shared/DOC.md";
     private static final String[] METHODS = {"shape 4", "lose 1", "cell 4", "sure 4", "corner 2", "about 2", "chance 3",
         "swap 4", "turn 2", "same 2", "isOf 2", "who 1", "number 1", "law 2", "broken 1", "near 3", "begin 2", "weigh 3",
         "take 1", "value 2", "bound 1", "breaks 1", "best 1", "share 2", "mixed 1", "makes 1", "wire 3", "blend 4",
@@ -24,6 +25,7 @@ public final class FaceTest {
     public static void main(String[] args) throws IOException {
         constants();
         methods();
+        asTheDocumentWritesIt();
         otherMembers();
         nestedClasses();
         words();
@@ -40,6 +42,25 @@ public final class FaceTest {
         Set<String> open = new TreeSet<>();
         for (Field f : FarPairs.class.getDeclaredFields()) if (!Modifier.isPrivate(f.getModifiers())) open.add(f.getName());
         Due.holds("the open fields are the constants: " + open, open.equals(Set.of("BAD", "NO", "FULL", "LARGE", "NONE")));
+        for (Field f : FarPairs.class.getFields()) {
+            Due.is("public, static, final: " + f, f.getModifiers(), Modifier.PUBLIC | Modifier.STATIC | Modifier.FINAL);
+            Due.holds("long: " + f, f.getType() == long.class);
+        }
+    }
+
+    /** Every line of the document's face stands in the class, with the names of its parameters. */
+    private static void asTheDocumentWritesIt() throws IOException {
+        String document = Files.readString(Path.of(DOCUMENT));
+        Matcher face = Pattern.compile("(?s)## The public face\\s+```java\n(.*?)\n\\}\n```").matcher(document);
+        Due.holds("the document has a face", face.find());
+        String source = Files.readString(Path.of(SOURCE));
+        int found = 0;
+        for (String line : face.group(1).split("\n")) {
+            String due = line.endsWith(");") ? line.substring(0, line.length() - 1) + " {" : line;
+            Due.holds("stands in the class: " + due, source.contains("\n" + due + "\n"));
+            found++;
+        }
+        Due.is("the class, its constants, its constructor and its methods", found, 3 + METHODS.length);
     }
 
     private static void methods() {

@@ -75,8 +75,8 @@ public final class LawsTest {
     }
 
     private static void promise20() {
-        FarPairs x = new FarPairs();
         for (int k = 0; k < 8; k++) {
+            FarPairs x = new FarPairs();
             x.begin(3, 3);
             weighAll(x, 9);
             x.share(100, 4);
@@ -90,6 +90,7 @@ public final class LawsTest {
                 Due.is("20: weight", x.weigh(3 * p + q, 3 * a + b, 0), want);
             }
         }
+        FarPairs x = new FarPairs();
         weighAll(x, 3);
         x.share(2, 2);
         String before = Seen.of(x);
@@ -203,8 +204,8 @@ public final class LawsTest {
         Due.is("24: all weights 0", x.best(0), 0);
         Due.is("24: least corner", x.best(1), 0);
         for (int k = 0; k < 24; k++) {
+            x = new FarPairs();
             x.corner(0, k);
-            x.begin(2, 2);
             for (int i = 0; i < 81; i++) if (x.chance(0, i / 9, i % 9) == 1) x.weigh(i / 9, i % 9, 3);
             Due.is("24: the corner's own game", x.best(0), 24);
             Due.is("24: the corner", x.best(1), k);
@@ -239,6 +240,7 @@ public final class LawsTest {
         Due.is("24: told, weighed otherwise", x.best(2), 15 + 15);
         for (int alone = 0; alone < 3; alone++) {
             // One question of the first one wants answer 1 of the other, the others answer 2.
+            x = new FarPairs();
             x.begin(3, 3);
             weighAll(x, -7);
             for (int i = 0; i < 27; i++) x.weigh(i / 3, 3 * (i % 3) + (i / 9 == alone ? 1 : 2), -3);

@@ -259,18 +259,16 @@ public final class MadeOfTwoTest {
 
     /** Each kind of CHANGE is kept and taken back; calls that are none are not kept. */
     private static void promise31OfEach() {
-        FarPairs x = new FarPairs();
-        x.shape(0, 2, 2, 3);
-        for (int questions : new int[] {0, 1, 3, 4}) row(x, 0, questions, 0, 1, 0, 2);
-        x.share(5, 2);
-        String before = Seen.of(x);
         for (int change = 0; change < 11; change++) {
+            FarPairs x = someChanges();
+            String before = Seen.of(x);
             Due.holds("31: change " + change, changeOf(x, change) >= 0);
             Due.is("31: kept", x.count(3), 6);
             x.undo();
             x.cell(0, 4, 3, 2);
             Due.holds("31: as it was after change " + change, Seen.of(x).equals(before));
         }
+        FarPairs x = someChanges();
         x.weigh(0, 0, 1);
         x.bound(0);
         x.isOf(0, 3);
@@ -278,7 +276,15 @@ public final class MadeOfTwoTest {
         x.cell(0, 0, 0, 4);
         x.undo();
         Due.is("31: only changes are kept", x.count(3), 5);
-        Due.is("31: only changes are taken back", x.chance(0, 4, 3), 2);
+        Due.is("31: only changes are taken back", x.chance(0, 4, 3), 0);
+    }
+
+    private static FarPairs someChanges() {
+        FarPairs x = new FarPairs();
+        x.shape(0, 2, 2, 3);
+        for (int questions : new int[] {0, 1, 3, 4}) row(x, 0, questions, 0, 1, 0, 2);
+        x.share(5, 2);
+        return x;
     }
 
     private static long changeOf(FarPairs x, int change) {

@@ -18,13 +18,21 @@ final class Seen {
         return seen.toString();
     }
 
+    /** Only what there is to ask: an object that is looked at twice stays under its 512 calls. */
     private static void addTable(StringBuilder seen, FarPairs x, int t) {
-        for (int what = 0; what < 4; what++) {
-            add(seen, x.about(t, what));
+        long q = x.about(t, 0);
+        long a = x.about(t, 1);
+        add(seen, q);
+        add(seen, a);
+        if (q == Due.NO) {
+            return;
         }
+        add(seen, x.about(t, 2));
         for (int questions = 0; questions < 9; questions++) {
             for (int answers = 0; answers < 9; answers++) {
-                add(seen, x.chance(t, questions, answers));
+                if (questions / 3 < q && questions % 3 < q && answers / 3 < a && answers % 3 < a) {
+                    add(seen, x.chance(t, questions, answers));
+                }
             }
         }
         add(seen, x.value(t, 0));
